@@ -395,7 +395,6 @@ public final class KnightPairChess {
         next.position.copyFrom(before.position);
         next.quiet = before.quiet + 1;
         next.captured = EMPTY;
-        next.verdict = ONGOING;
         present = next;
     }
 

@@ -6,6 +6,8 @@ final class ActingTest {
         moveRefused();
         bond();
         dissolve();
+        bondsInTheCorners();
+        endedByBonds();
         takeBack();
         takeBackOfEverything();
         actionCount();
@@ -150,6 +152,32 @@ final class ActingTest {
         Check.badState("28: during a set-up", () -> game.dissolve(1));
     }
 
+    private static void bondsInTheCorners() {
+        for (String ends : new String[] {"a1b3", "b3a1", "h8g6", "g6h8"}) {
+            String one = ends.substring(0, 2);
+            String other = ends.substring(2, 4);
+            KnightPairChess game = Check.begun("Ke1 kd8 N" + one + " N" + other + " pa7", true);
+            game.bond(Check.at(one), Check.at(other));
+            act(game, "a7a6");
+            Check.is("28: the other knight", Check.at(other), game.dissolve(Check.at(one)));
+            Check.is("28: no bond", KnightPairChess.NONE, game.bondOf(Check.at(one)));
+            Check.is("28: no bond", KnightPairChess.NONE, game.bondOf(Check.at(other)));
+            Check.is("13: none left", 0, game.bondCount(true));
+            Check.is("29: left", 2, game.takeBack());
+            Check.is("29: the bond is back", Check.at(one), game.bondOf(Check.at(other)));
+        }
+        KnightPairChess walk = Check.begun("Ke1 ke8 Na1 Nd4 bh8 pa7", true);
+        walk.bond(Check.at("a1"), Check.at("d4"));
+        Check.moved(walk, "a7a6 a1b3 a6a5 b3a1");
+        Check.is("26: from the corner and back", Check.at("d4"), walk.bondOf(0));
+        Check.is("26: nothing is left behind", KnightPairChess.NONE, walk.bondOf(Check.at("b3")));
+        Check.moved(walk, "a5a4 d4b3 h8a1");
+        Check.is("26: the bond ends with the capture in the corner", KnightPairChess.NONE, walk.bondOf(Check.at("b3")));
+        Check.is("26: the bishop has none", KnightPairChess.NONE, walk.bondOf(0));
+        act(walk, "b3a1");
+        Check.is("26: nor the knight that comes back", KnightPairChess.NONE, walk.bondOf(0));
+    }
+
     private static void takeBack() {
         KnightPairChess game = new KnightPairChess();
         Check.badState("29: none", game::takeBack);
@@ -263,6 +291,63 @@ final class ActingTest {
         Check.is("31: without it", KnightPairChess.ONGOING, near.outcome());
         KnightPairChess others = Check.begun("Ka1 Na3 ra8 qb3 kh8 nh6 ng6", true);
         Check.is("31: Black's knights do not help White", KnightPairChess.STALEMATE, others.outcome());
+    }
+
+    /** Bondings and dissolvings end the game like moves. */
+    private static void endedByBonds() {
+        KnightPairChess stale = Check.begun("ka8 Qb6 Kh1 Nc1 Ne1", true);
+        stale.bond(Check.at("c1"), Check.at("e1"));
+        Check.is("31: stalemate after a bonding", KnightPairChess.STALEMATE, stale.outcome());
+        KnightPairChess dissolved = Check.begun("ka8 Qb6 Kh3 Nc1 Ne1 ph5", true);
+        dissolved.bond(Check.at("c1"), Check.at("e1"));
+        act(dissolved, "h5h4");
+        Check.is("31: goes on", KnightPairChess.ONGOING, dissolved.outcome());
+        dissolved.dissolve(Check.at("e1"));
+        Check.is("31: stalemate after a dissolving", KnightPairChess.STALEMATE, dissolved.outcome());
+        repeatedByBonds();
+    }
+
+    private static void repeatedByBonds() {
+        KnightPairChess game = Check.begun("Ka1 kh8 Nc3 Nd5 nf6 ng4", true);
+        for (int round = 0; round < 2; round++) {
+            Check.is("31: goes on", KnightPairChess.ONGOING, game.outcome());
+            game.bond(Check.at("c3"), Check.at("d5"));
+            game.bond(Check.at("f6"), Check.at("g4"));
+            game.dissolve(Check.at("d5"));
+            game.dissolve(Check.at("f6"));
+        }
+        Check.is("31: repetition by a dissolving", KnightPairChess.REPETITION, game.outcome());
+        game.takeBack();
+        Check.moved(game, "h8h7");
+        Check.is("31: goes on", KnightPairChess.ONGOING, game.outcome());
+        KnightPairChess other = Check.begun("Ka1 kh8 Nc3 Nd5 nf6 ng4", true);
+        other.bond(Check.at("c3"), Check.at("d5"));
+        Check.moved(other, "h8g8 a1a2 g8h8 a2a1 h8g8");
+        other.dissolve(Check.at("c3"));
+        act(other, "g8h8");
+        Check.is("31: goes on", KnightPairChess.ONGOING, other.outcome());
+        other.bond(Check.at("d5"), Check.at("c3"));
+        Check.is("32: three times", 3, other.occurrences());
+        Check.is("31: repetition by a bonding", KnightPairChess.REPETITION, other.outcome());
+        quietByBonds();
+    }
+
+    private static void quietByBonds() {
+        KnightPairChess game = Check.begun("Ka1 Rb2 kh8 nh5 nh6 Nh2 Nh1", true);
+        tour(game, TOUR_32 + " e4 e3 e2", "h8g8");
+        act(game, "e2f2");
+        game.bond(Check.at("h5"), Check.at("h6"));
+        Check.is("31: 40 with a bonding", KnightPairChess.QUIET, game.outcome());
+        KnightPairChess ended = Check.begun("Ka1 Rb2 kh8 nh5 nh6", true);
+        act(ended, "b2c2");
+        ended.bond(Check.at("h5"), Check.at("h6"));
+        act(ended, "c2b2");
+        act(ended, "h8h7");
+        tour(ended, TOUR_32 + " e4", "h7g8");
+        act(ended, "e4e3");
+        Check.is("33: 39", 39, ended.quietActions());
+        ended.dissolve(Check.at("h6"));
+        Check.is("31: 40 with a dissolving", KnightPairChess.QUIET, ended.outcome());
     }
 
     private static void occurrences() {
@@ -451,12 +536,23 @@ final class ActingTest {
         Check.is("34: still one knight", 1, game.capturedCount(KnightPairChess.KNIGHT, false));
         game.takeBack();
         Check.is("34: taken back", 0, game.capturedCount(KnightPairChess.PAWN, false));
+        act(game, "h7g7");
+        game.takeBack();
+        act(game, "h7h5");
+        game.takeBack();
+        Check.is("34: taken back again", 0, game.capturedCount(KnightPairChess.PAWN, false));
         Check.is("34: the others are not", 1, game.capturedCount(KnightPairChess.BISHOP, false));
         Check.is("34: no king", 0, game.capturedCount(KnightPairChess.KING, false));
         game.beginSetup();
         Check.is("34: during a set-up", 0, game.capturedCount(KnightPairChess.ROOK, false));
         Check.badArgument("34: 7 during a set-up", () -> game.capturedCount(7, true));
         queenThatWasAPawn();
+        KnightPairChess knights = Check.begun("Ka1 Nb3 Nc5 kh8 pd7", true);
+        act(knights, "c5d7");
+        Check.is("34: a pawn", 1, knights.capturedCount(KnightPairChess.PAWN, false));
+        knights.takeBack();
+        knights.bond(Check.at("b3"), Check.at("c5"));
+        Check.is("34: a bonding captures nothing", 0, knights.capturedCount(KnightPairChess.PAWN, false));
     }
 
     private static void queenThatWasAPawn() {

@@ -230,6 +230,10 @@ final class LegalActionsTest {
         Check.is("24: a stalemate is none", KnightPairChess.NONE, Check.begun("ka8 Kh1 Qb5", true).matingMove());
         Check.is("24: by a pawn that becomes a queen", 64 * Check.at("g7") + Check.at("g8"),
                 Check.begun("kc8 Kc6 Pg7", true).matingMove());
+        Check.is("24: from the first square", 56, Check.begun("kh8 Kh6 Ra1", true).matingMove());
+        Check.is("24: to the first square", 64 * Check.at("a8"), Check.begun("Kh1 kh3 ra8", false).matingMove());
+        Check.is("24: to the last square", 64 * Check.at("h1") + 63, Check.begun("ka8 Ka6 Rh1", true).matingMove());
+        Check.is("24: from the last square", 64 * 63 + 7, Check.begun("Ka1 ka3 rh8", false).matingMove());
         Check.is("24: during a set-up", KnightPairChess.NONE, Check.placed("ka8 Kb6 Rh1").matingMove());
         KnightPairChess knights = Check.begun(SMOTHERED, true);
         Check.is("24: by a knight", 64 * Check.at("g5") + Check.at("f7"), knights.matingMove());
@@ -284,6 +288,10 @@ final class LegalActionsTest {
         KnightPairChess bare = Check.begun("Ka1 qb2 kh8", true);
         Check.is("25: the only move leaves bare kings", 1, bare.countSequences(1));
         Check.is("25: and Black goes on", 3, bare.countSequences(2));
+        KnightPairChess corner = Check.begun("Ka2 kh8 rb8", true);
+        Check.is("19: to the first square", Check.squares("a1 a3"), corner.legalMoves(Check.at("a2")));
+        Check.is("25: two", Check.begun("Ka1 kh8 rb8", false).legalMoveCount()
+                + Check.begun("Ka3 kh8 rb8", false).legalMoveCount(), corner.countSequences(2));
         KnightPairChess again = Check.moved(new KnightPairChess(), "b1c3 b8c6 c3b1 c6b8 b1c3 b8c6 c3b1 c6b8");
         Check.is("25: after a repetition", KnightPairChess.REPETITION, again.outcome());
         Check.is("25: it does not matter", 10, again.countSequences(1));

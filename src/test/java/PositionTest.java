@@ -143,6 +143,13 @@ final class PositionTest {
         Check.is("13: dissolved", 0, game.bondCount(false));
         game.beginSetup();
         Check.is("13: in a set-up", 0, game.bondCount(true));
+        KnightPairChess corners = Check.begun("Kh1 ka8 Na1 Nb3 nh8 ng6", true);
+        corners.bond(0, Check.at("b3"));
+        corners.bond(Check.at("g6"), 63);
+        Check.is("13: with a knight in the first corner", 1, corners.bondCount(true));
+        Check.is("13: with a knight in the last corner", 1, corners.bondCount(false));
+        Check.is("12: the first corner", Check.at("b3"), corners.bondOf(0));
+        Check.is("12: the last corner", Check.at("g6"), corners.bondOf(63));
     }
 
     private static void longestBond() {

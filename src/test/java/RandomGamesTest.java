@@ -16,6 +16,8 @@ final class RandomGamesTest {
     private final int[] lastFrom = {-1, -1};
     private final int[] lastTo = {-1, -1};
     private final boolean shuffling;
+    /** The files and ranks on which pieces are placed: a few of them fill the corner. */
+    private int width = 8;
 
     private static final int[] outcomes = new int[6];
     private static final int[] refusals = new int[8];
@@ -62,6 +64,14 @@ final class RandomGamesTest {
             RandomGamesTest test = new RandomGamesTest("crowd", 6000 + seed, false);
             test.setUpMany(40 + seed);
             test.play(6);
+        }
+        for (int seed = 0; seed < 30; seed++) {
+            RandomGamesTest test = new RandomGamesTest("again and again", 7000 + seed, true);
+            test.width = 4;
+            for (int game = 0; game < 4; game++) {
+                test.setUp("NNNNRP");
+                test.play(25);
+            }
         }
         seeThatAllWasMet();
         Check.finish();
@@ -112,7 +122,7 @@ final class RandomGamesTest {
     }
 
     private void tryPlacing(int kind, boolean white) {
-        int square = chance.nextInt(66) - 1;
+        int square = width == 8 ? chance.nextInt(66) - 1 : chance.nextInt(width) + 8 * chance.nextInt(width);
         Check.same(name + " place", Check.told(() -> naive.place(square, kind, white)),
                 Check.told(() -> game.place(square, kind, white)));
         if (chance.nextInt(8) == 0) {

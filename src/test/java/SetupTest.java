@@ -56,6 +56,9 @@ final class SetupTest {
         game.beginSetup();
         Check.is("2: begun anew", 0, game.piecesOf(true));
         endedGame();
+        KnightPairChess black = Check.begun("Ka1 kh8 Nc3", false);
+        black.beginSetup();
+        Check.yes("2: White is to act, whoever began before", black.whiteToAct());
     }
 
     private static void endedGame() {
