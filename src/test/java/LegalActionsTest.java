@@ -234,6 +234,9 @@ final class LegalActionsTest {
         Check.is("24: to the first square", 64 * Check.at("a8"), Check.begun("Kh1 kh3 ra8", false).matingMove());
         Check.is("24: to the last square", 64 * Check.at("h1") + 63, Check.begun("ka8 Ka6 Rh1", true).matingMove());
         Check.is("24: from the last square", 64 * 63 + 7, Check.begun("Ka1 ka3 rh8", false).matingMove());
+        KnightPairChess corner = Check.begun("Kc1 kc3 pa2", false);
+        Check.is("24: the first square is all that the pawn has", 64 * Check.at("a2"), corner.matingMove());
+        Check.is("25: two, from the pawn, too", answersToAll(corner), corner.countSequences(2));
         Check.is("24: during a set-up", KnightPairChess.NONE, Check.placed("ka8 Kb6 Rh1").matingMove());
         KnightPairChess knights = Check.begun(SMOTHERED, true);
         Check.is("24: by a knight", 64 * Check.at("g5") + Check.at("f7"), knights.matingMove());
@@ -250,6 +253,22 @@ final class LegalActionsTest {
         bondedDefender();
         KnightPairChess over = Check.begun("Ka1 kh8", true);
         Check.is("24: ended", KnightPairChess.NONE, over.matingMove());
+    }
+
+    /** The legal moves of the other side, summed over all moves of the side to act. */
+    private static int answersToAll(KnightPairChess game) {
+        int sum = 0;
+        for (int from = 0; from < 64; from++) {
+            long targets = game.legalMoves(from);
+            for (int to = 0; to < 64; to++) {
+                if ((targets >>> to & 1) != 0) {
+                    game.move(from, to);
+                    sum += game.countSequences(1);
+                    game.takeBack();
+                }
+            }
+        }
+        return sum;
     }
 
     /** A knight that must stay near its mate cannot capture the one that gives check. */
@@ -288,6 +307,7 @@ final class LegalActionsTest {
         KnightPairChess bare = Check.begun("Ka1 qb2 kh8", true);
         Check.is("25: the only move leaves bare kings", 1, bare.countSequences(1));
         Check.is("25: and Black goes on", 3, bare.countSequences(2));
+        Check.is("25: in a game", answersToAll(knights()), knights().countSequences(2));
         KnightPairChess corner = Check.begun("Ka2 kh8 rb8", true);
         Check.is("19: to the first square", Check.squares("a1 a3"), corner.legalMoves(Check.at("a2")));
         Check.is("25: two", Check.begun("Ka1 kh8 rb8", false).legalMoveCount()
@@ -296,6 +316,10 @@ final class LegalActionsTest {
         Check.is("25: after a repetition", KnightPairChess.REPETITION, again.outcome());
         Check.is("25: it does not matter", 10, again.countSequences(1));
         Check.is("25: it does not matter", 100, again.countSequences(2));
+    }
+
+    private static KnightPairChess knights() {
+        return Check.moved(new KnightPairChess(), "b1c3 e7e6 g1f3 d8h4");
     }
 
     private static void nothingChanges() {
