@@ -334,7 +334,7 @@ final class ActingTest {
 
     private static void quietByBonds() {
         KnightPairChess game = Check.begun("Ka1 Rb2 kh8 nh5 nh6 Nh2 Nh1", true);
-        tour(game, TOUR_32 + " e4 e3 e2", "h8g8");
+        Check.tour(game, Check.TOUR + " e4 e3 e2", "h8g8");
         act(game, "e2f2");
         game.bond(Check.at("h5"), Check.at("h6"));
         Check.is("31: 40 with a bonding", KnightPairChess.QUIET, game.outcome());
@@ -343,7 +343,7 @@ final class ActingTest {
         ended.bond(Check.at("h5"), Check.at("h6"));
         act(ended, "c2b2");
         act(ended, "h8h7");
-        tour(ended, TOUR_32 + " e4", "h7g8");
+        Check.tour(ended, Check.TOUR + " e4", "h7g8");
         act(ended, "e4e3");
         Check.is("33: 39", 39, ended.quietActions());
         ended.dissolve(Check.at("h6"));
@@ -449,20 +449,9 @@ final class ActingTest {
         Check.is("33: from then on", 1, last.quietActions());
     }
 
-    /** Takes the moves of one piece through these squares, each answered by a move of the other side's king. */
-    private static void tour(KnightPairChess game, String squares, String king) {
-        String[] names = squares.split(" ");
-        for (int step = 0; step + 1 < names.length; step++) {
-            act(game, names[step] + names[step + 1]);
-            act(game, step % 2 == 0 ? king : king.substring(2) + king.substring(0, 2));
-        }
-    }
-
-    private static final String TOUR_32 = "b2 b3 b4 b5 b6 c6 c5 c4 c3 c2 d2 d3 d4 d5 d6 e6 e5";
-
     private static void endedByQuiet() {
         KnightPairChess game = Check.begun("Ka1 Rb2 kh8 Ph2", true);
-        tour(game, TOUR_32 + " e4 e3 e2", "h8g8");
+        Check.tour(game, Check.TOUR + " e4 e3 e2", "h8g8");
         act(game, "e2f2");
         Check.is("33: 39", 39, game.quietActions());
         Check.is("31: 39 are not enough", KnightPairChess.ONGOING, game.outcome());
@@ -483,7 +472,7 @@ final class ActingTest {
 
     private static void whatComesBeforeQuiet() {
         KnightPairChess again = Check.begun("Ka1 Rb2 kh8 Ph2", true);
-        tour(again, TOUR_32, "h8g8");
+        Check.tour(again, Check.TOUR, "h8g8");
         Check.moved(again, "e5e4 h8h7 e4e5 h7h8 e5e4 h8h7 e4e5");
         Check.is("31: 39", KnightPairChess.ONGOING, again.outcome());
         act(again, "h7h8");
@@ -491,7 +480,7 @@ final class ActingTest {
         Check.is("31: repetition comes first", KnightPairChess.REPETITION, again.outcome());
         KnightPairChess mate = Check.begun("Ka1 Rb2 Rg1 kh8", false);
         act(mate, "h8h7");
-        tour(mate, TOUR_32 + " e4 e3 e2", "h7h8");
+        Check.tour(mate, Check.TOUR + " e4 e3 e2", "h7h8");
         Check.is("33: 39", 39, mate.quietActions());
         act(mate, "e2h2");
         Check.is("33: 40", 40, mate.quietActions());
@@ -499,7 +488,7 @@ final class ActingTest {
         String round = "f1 e2 d1 b3 a2 c4 b5 a6 b7 g2 ";
         KnightPairChess stale = Check.begun("Kf7 Bf1 kh8", false);
         act(stale, "h8h7");
-        tour(stale, round + round.trim(), "h7h8");
+        Check.tour(stale, round + round.trim(), "h7h8");
         Check.is("33: 39", 39, stale.quietActions());
         Check.is("31: 39", KnightPairChess.ONGOING, stale.outcome());
         act(stale, "g2e4");

@@ -65,17 +65,24 @@ final class Check {
             int here = square;
             text.append(game.pieceAt(square)).append(told(() -> game.isWhite(here))).append(game.bondOf(square))
                     .append(':').append(game.legalMoves(square)).append(':').append(game.dissolveRefusal(square))
+                    .append(':').append(game.attackers(square, true)).append(':').append(game.attackers(square, false))
                     .append(' ');
         }
         for (boolean white : new boolean[] {true, false}) {
-            text.append(game.piecesOf(white)).append(' ').append(game.bondCount(white)).append(' ');
+            text.append(game.piecesOf(white)).append(' ').append(game.kingSquare(white)).append(' ')
+                    .append(game.bondCount(white)).append(' ').append(game.longestBond(white)).append(' ')
+                    .append(game.attackedSquares(white)).append(' ').append(game.isInCheck(white)).append(' ')
+                    .append(game.strengthOf(white)).append(' ').append(game.strengthBits(white)).append(' ');
             for (int kind = 1; kind <= 6; kind++) {
                 text.append(game.capturedCount(kind, white)).append(' ');
             }
         }
         return text.append(game.isSetup()).append(' ').append(game.whiteToAct()).append(' ')
                 .append(game.outcome()).append(' ').append(game.occurrences()).append(' ')
-                .append(game.quietActions()).append(' ').append(game.actionCount()).toString();
+                .append(game.quietActions()).append(' ').append(game.actionCount()).append(' ')
+                .append(game.legalMoveCount()).append(' ').append(game.matingMove()).append(' ')
+                .append(game.countSequences(1)).append(' ').append(game.countSequences(2)).append(' ')
+                .append(game.balance()).toString();
     }
 
     /** The set of the given squares. */
@@ -126,6 +133,18 @@ final class Check {
             game.move(at(move.substring(0, 2)), at(move.substring(2, 4)));
         }
         return game;
+    }
+
+    /** The squares of 16 moves of a rook after which no square has been visited twice. */
+    static final String TOUR = "b2 b3 b4 b5 b6 c6 c5 c4 c3 c2 d2 d3 d4 d5 d6 e6 e5";
+
+    /** Takes the moves of one piece through these squares, each answered by a move of the other side's king. */
+    static void tour(KnightPairChess game, String squares, String king) {
+        String[] names = squares.split(" ");
+        for (int step = 0; step + 1 < names.length; step++) {
+            moved(game, names[step] + names[step + 1]);
+            moved(game, step % 2 == 0 ? king : king.substring(2) + king.substring(0, 2));
+        }
     }
 
     /** Ends the test, with exit code 1 if an answer was wrong. */
