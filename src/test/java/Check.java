@@ -147,6 +147,22 @@ final class Check {
         }
     }
 
+    /** The legal moves of the other side, summed over all moves of the side to act. */
+    static int answersToAll(KnightPairChess game) {
+        int sum = 0;
+        for (int from = 0; from < 64; from++) {
+            long targets = game.legalMoves(from);
+            for (int to = 0; to < 64; to++) {
+                if ((targets >>> to & 1) != 0) {
+                    game.move(from, to);
+                    sum += game.countSequences(1);
+                    game.takeBack();
+                }
+            }
+        }
+        return sum;
+    }
+
     /** Ends the test, with exit code 1 if an answer was wrong. */
     static void finish() {
         System.out.println(wrong == 0 ? looked + " answers are as due" : wrong + " of " + looked + " are not as due");

@@ -236,7 +236,7 @@ final class LegalActionsTest {
         Check.is("24: from the last square", 64 * 63 + 7, Check.begun("Ka1 ka3 rh8", false).matingMove());
         KnightPairChess corner = Check.begun("Kc1 kc3 pa2", false);
         Check.is("24: the first square is all that the pawn has", 64 * Check.at("a2"), corner.matingMove());
-        Check.is("25: two, from the pawn, too", answersToAll(corner), corner.countSequences(2));
+        Check.is("25: two, from the pawn, too", Check.answersToAll(corner), corner.countSequences(2));
         Check.is("24: during a set-up", KnightPairChess.NONE, Check.placed("ka8 Kb6 Rh1").matingMove());
         KnightPairChess knights = Check.begun(SMOTHERED, true);
         Check.is("24: by a knight", 64 * Check.at("g5") + Check.at("f7"), knights.matingMove());
@@ -253,22 +253,6 @@ final class LegalActionsTest {
         bondedDefender();
         KnightPairChess over = Check.begun("Ka1 kh8", true);
         Check.is("24: ended", KnightPairChess.NONE, over.matingMove());
-    }
-
-    /** The legal moves of the other side, summed over all moves of the side to act. */
-    private static int answersToAll(KnightPairChess game) {
-        int sum = 0;
-        for (int from = 0; from < 64; from++) {
-            long targets = game.legalMoves(from);
-            for (int to = 0; to < 64; to++) {
-                if ((targets >>> to & 1) != 0) {
-                    game.move(from, to);
-                    sum += game.countSequences(1);
-                    game.takeBack();
-                }
-            }
-        }
-        return sum;
     }
 
     /** A knight that must stay near its mate cannot capture the one that gives check. */
@@ -307,7 +291,7 @@ final class LegalActionsTest {
         KnightPairChess bare = Check.begun("Ka1 qb2 kh8", true);
         Check.is("25: the only move leaves bare kings", 1, bare.countSequences(1));
         Check.is("25: and Black goes on", 3, bare.countSequences(2));
-        Check.is("25: in a game", answersToAll(knights()), knights().countSequences(2));
+        Check.is("25: in a game", Check.answersToAll(knights()), knights().countSequences(2));
         KnightPairChess corner = Check.begun("Ka2 kh8 rb8", true);
         Check.is("19: to the first square", Check.squares("a1 a3"), corner.legalMoves(Check.at("a2")));
         Check.is("25: two", Check.begun("Ka1 kh8 rb8", false).legalMoveCount()

@@ -171,29 +171,13 @@ final class StatesTest {
         Check.is("25: the move that leaves bare kings is counted", 1, ends.countSequences(1));
         Check.is("25: and the moves after it", 3, ends.countSequences(2));
         KnightPairChess mates = Check.begun("kh8 Kh6 Ra7", true);
-        Check.is("25: after the mating move there is no second one", answersToAll(mates), mates.countSequences(2));
+        Check.is("25: after the mating move there is no second one", Check.answersToAll(mates), mates.countSequences(2));
         KnightPairChess third = Games.repetition();
         third.takeBack();
-        Check.is("25: the third occurrence does not end a sequence", answersToAll(third), third.countSequences(2));
+        Check.is("25: the third occurrence does not end a sequence", Check.answersToAll(third), third.countSequences(2));
         KnightPairChess quiet = Games.quiet();
         quiet.takeBack();
-        Check.is("25: nor the 40th quiet action", answersToAll(quiet), quiet.countSequences(2));
-    }
-
-    /** The sum of countSequences(1) after each legal move. */
-    private static int answersToAll(KnightPairChess game) {
-        int sum = 0;
-        for (int from = 0; from < 64; from++) {
-            long targets = game.legalMoves(from);
-            for (int to = 0; to < 64; to++) {
-                if ((targets >>> to & 1) != 0) {
-                    game.move(from, to);
-                    sum += game.countSequences(1);
-                    game.takeBack();
-                }
-            }
-        }
-        return sum;
+        Check.is("25: nor the 40th quiet action", Check.answersToAll(quiet), quiet.countSequences(2));
     }
 
     /** "Returns true if White is to act": after the end it is the side that would be to act. */
